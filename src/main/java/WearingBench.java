@@ -33,6 +33,7 @@ public final class WearingBench {
     private static final int CHANCE_CALLS = 10;
     private static final int LAST_SEED = 2000000000;
     private static final int MOST_DAYS = 20;
+    private static final int MOST_ROWS = 7776;
 
     private static final int STANDS = -1;
     private static final int AWAY = -2;
@@ -1729,7 +1730,7 @@ public final class WearingBench {
                 trial.seat[c] = 0;
             }
             boolean more = true;
-            for (int i = 0; i < 7776 && more; i++) {
+            for (int i = 0; i < MOST_ROWS && more; i++) {
                 int unlike = liveAsTold(trial, day);
                 if (unlike == NONE) {
                     weighRow(trial, Integer.bitCount(day.toldBits(trial)));
