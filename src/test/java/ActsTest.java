@@ -339,6 +339,16 @@ public final class ActsTest {
         DUE.is("as they were", x.under(0, 9), 1 << 8);
         DUE.is("as they were, 7", x.under(0, 7), 1 << 6);
         DUE.is("as they were, 5", x.under(0, 5), 0);
+        Tell.row(x, 0, 1, 9, 8, 7, 6, 5, 4);
+        x.paste(0, 0, 0, 2, 2);
+        // 9 8 9 8 5 4
+        DUE.is("what is behind stays", x.under(0, 5), 1 << 4);
+        DUE.is("what is put", x.under(0, 7), 0);
+        Tell.row(x, 0, 1, 9, 8, 7, 6, 5, 4);
+        x.paste(0, 4, 0, 0, 2);
+        // 5 4 7 6 5 4
+        DUE.is("what is behind stays, 7", x.under(0, 7), 1 << 6);
+        DUE.is("what is put, 9", x.under(0, 9), 0);
     }
 
     private static void wrongPastes() {

@@ -90,8 +90,9 @@ public final class TapeTest {
         DUE.is("place is gone", x.fault(1), -1);
         DUE.is("empty in place", x.bench(), 0);
         DUE.is("none then", x.told(), -2);
-        DUE.is("count law then", x.count(1), 0);
-        DUE.is("count every then", x.count(3), 0);
+        for (int what = 0; what <= 9; what++) {
+            DUE.is("count then " + what, x.count(what), 0);
+        }
     }
 
     private static void faults() {
@@ -102,6 +103,14 @@ public final class TapeTest {
         fault("Bench law 0", 1, 0);
         fault("benchx law 0", 1, 0);
         fault("ben ch", 1, 0);
+        fault("benchz law 0", 1, 0);
+        fault("bench lawa 0", 1, 6);
+        fault("bench lawz 0", 1, 6);
+        fault("bench law{ 0", 1, 9);
+        fault("bench law` 0", 1, 9);
+        fault("bench law 0/", 1, 11);
+        fault("bench law 0:", 1, 11);
+        fault("bench law 0wear 09every 09odds 09 :", 1, 34);
         fault("bench", 1, 5);
         fault("bench  \n", 1, 8);
         fault("bench law", 1, 9);
