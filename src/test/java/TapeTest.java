@@ -78,6 +78,8 @@ public final class TapeTest {
         DUE.is("every 30", x.count(3), 30);
         DUE.is("seats", x.count(0), 2);
         DUE.is("callers", x.count(5), 1);
+        DUE.is("a caller", x.told(), 0);
+        DUE.is("plans", x.best(), 0);
         DUE.is("moves", x.move(0, 1, 5), 1);
         DUE.is("a fault", Tell.bench(x, "bench;"), -4);
         DUE.is("acts stay", x.count(6), 1);
@@ -88,6 +90,14 @@ public final class TapeTest {
         DUE.is("no seat any more", x.seat(0), -100);
         DUE.is("fault is gone", x.fault(0), 0);
         DUE.is("place is gone", x.fault(1), -1);
+        DUE.is("one told off", Tell.bench(x, FIRST + "seat gives 0;caller age 1 comes 0 seat 0 told 1 to 1;"), 3);
+        DUE.is("told off", x.told(), 1);
+        DUE.is("best", x.best(), 1);
+        DUE.is("chance", x.luckily(0, 1, 0), 7);
+        DUE.is("one not", Tell.bench(x, FIRST + "seat gives 0;caller age 1 comes 0 seat 0 told 2 to 2;"), 3);
+        DUE.is("not told off", x.told(), 0);
+        DUE.is("best then", x.best(), 0);
+        DUE.is("chance then", x.luckily(0, 1, 0), 0);
         DUE.is("empty in place", x.bench(), 0);
         DUE.is("none then", x.told(), -2);
         for (int what = 0; what <= 9; what++) {
@@ -103,6 +113,8 @@ public final class TapeTest {
         fault("Bench law 0", 1, 0);
         fault("benchx law 0", 1, 0);
         fault("ben ch", 1, 0);
+        fault("dench law 0", 1, 0);
+        fault("bench paw 0", 1, 6);
         fault("benchz law 0", 1, 0);
         fault("bench lawa 0", 1, 6);
         fault("bench lawz 0", 1, 6);

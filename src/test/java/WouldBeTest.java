@@ -132,6 +132,10 @@ public final class WouldBeTest {
                 + "caller age 10 comes 0 seat 0 told 39 to 40;");
         DUE.is("29 minutes", z.every(), 29);
         DUE.is("how many", z.calls(), 1);
+        WearingBench w = Tell.of("bench law 0 wear 0 every 7 odds 0;seat gives 1;"
+                + "caller age 10 comes 0 seat 0 told 40 to 40;");
+        DUE.is("30 minutes", w.every(), 30);
+        DUE.is("how many by 30", w.calls(), 1);
     }
 
     private static void laws() {
