@@ -28,6 +28,23 @@ final class Tell {
         }
     }
 
+    static String first(int law, int wear, int every, int odds) {
+        return "bench law " + law + " wear " + wear + " every " + every + " odds " + odds + ";";
+    }
+
+    /** A line for each seat, by what it gives. */
+    static String seats(int... gives) {
+        StringBuilder text = new StringBuilder();
+        for (int years : gives) {
+            text.append(years < 0 ? "seat takes " + -years + ";" : "seat gives " + years + ";");
+        }
+        return text.toString();
+    }
+
+    static String caller(int age, int comes, int seat, int least, int most) {
+        return "caller age " + age + " comes " + comes + " seat " + seat + " told " + least + " to " + most + ";";
+    }
+
     static void row(WearingBench x, int slot, int width, long... numbers) {
         x.row(slot, width, numbers.length);
         for (int i = 0; i < numbers.length; i++) {
