@@ -95,6 +95,14 @@ public final class EdgesOfActsTest {
         fraction("at the third", 1, 8, what -> third.luckily(0, 3, what));
         fraction("as well at ten", 1, 8, what -> third.luckily(0, 10, what));
         fraction("never", 0, 1, what -> odds(1, 10, 1).luckily(0, 10, what));
+        WearingBench last = Tell.of(Tell.first(0, 0, 30, 5) + Tell.seats(1, 0) + Tell.caller(0, 0, 0, 60, 60));
+        fraction("at 60", 1, 4, what -> last.luckily(0, 2, what));
+        last.move(0, 1, 60);
+        fraction("at 60, when he has moved", 1, 4, what -> last.luckily(0, 2, what));
+        last.move(0, 1, 59);
+        fraction("moved at 59", 0, 1, what -> last.luckily(0, 2, what));
+        last.anew();
+        fraction("all taken back", 1, 4, what -> last.luckily(0, 2, what));
         e.says("-2 likewise.");
         refuses(NO_CALLER, c -> x.luckily(c, 1, 0), c -> none.luckily(c, 1, 0));
         e.each("calls", -2, k -> x.luckily(0, k, 0), -1, 11, LEAST, MOST);

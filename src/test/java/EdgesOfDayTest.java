@@ -202,10 +202,12 @@ public final class EdgesOfDayTest {
         e.says("The first MINUTE at which one goes in who is too young.");
         e.is("3", x.gun(), 32);
         e.is("1", wait.gun(), 30);
+        e.is("0", day(5, Tell.caller(5, 0, 0, 6, 9)).gun(), 5);
         e.is("the first of two, of the greater number", day(5, Tell.caller(5, 9, 0, 6, 9), Tell.caller(5, 0, 1, 6, 9)).gun(), 5);
         e.is("at 60", day(30, Tell.caller(5, 0, 0, 5, 5), Tell.caller(5, 0, 1, 6, 9)).gun(), 60);
         e.says("NONE: at none;");
         e.is("too old", day(5, Tell.caller(5, 0, 0, 0, 4)).gun(), -1);
+        e.is("told off", day(5, Tell.caller(5, 0, 0, 5, 5)).gun(), -1);
         e.is("forgotten", day(30, Tell.caller(5, 0, 0, 5, 5).repeat(2), Tell.caller(5, 0, 0, 99, 99)).gun(), -1);
         e.is("nobody at all", bare.gun(), -1);
         e.says("-2 likewise.");
@@ -259,6 +261,7 @@ public final class EdgesOfDayTest {
         e.is("13 and 12", x.deepest(), 0);
         e.is("31, 61, 61, 31", still.deepest(), 1);
         e.is("the last", day(1, Tell.caller(5, 0, 5, 0, 99)).deepest(), 5);
+        e.is("one minute alone", day(30, Tell.caller(5, 30, 4, 0, 99)).deepest(), 4);
         e.says("NONE: none;");
         e.is("nobody", day(1).deepest(), -1);
         e.is("no seat", bare.deepest(), -1);
@@ -468,6 +471,10 @@ public final class EdgesOfDayTest {
         WearingBench late = day(30, Tell.caller(5, 0, 0, 0, 99).repeat(3));
         late.move(2, 5, 60);
         e.is("at 60", late.opens(5), 2);
+        WearingBench change = day(30, Tell.caller(5, 0, 0, 0, 99), Tell.caller(5, 0, 1, 0, 99));
+        change.move(1, 2, 1);
+        change.move(0, 1, 1);
+        e.list("at 0 alone", change::opens, 0, 1, 1);
         e.says("NONE: nobody does;");
         e.is("nobody", late.opens(4), -1);
         e.is("nobody at all", day(1).opens(0), -1);

@@ -94,12 +94,25 @@ public final class EdgesOfTapeTest {
         e.is("none", x.end(0), 0);
         e.is("an empty tape", x.bench(), 0);
         e.is("none of none", x.end(0), 0);
+        cutInAToken(x);
         e.says("NONE, and nothing happens, if it has not so many, or n is below 0.");
         e.is("one of none", x.end(1), -1);
         Tell.tape(x, FIRST);
         e.each("too many, or below 0", -1, x::end, 36, 800, 801, MOST, -1, LEAST);
         e.is("so many still", x.count(8), 35);
         e.is("as they were", x.bench(), 1);
+    }
+
+    /** What stood behind the cut is no part of a token any more. */
+    private void cutInAToken(WearingBench x) {
+        Tell.tape(x, "bench law 39");
+        e.is("39 cut to 3", x.end(11), 11);
+        e.is("a fault", x.bench(), -4);
+        e.list("the end is there", x::fault, 1, 11);
+        Tell.tape(x, "bench law 3 wear");
+        e.is("wear cut to wea", x.end(15), 15);
+        e.is("a fault", x.bench(), -4);
+        e.list("it is no wear", x::fault, 1, 12);
     }
 
     private void bench() {
@@ -110,6 +123,7 @@ public final class EdgesOfTapeTest {
         e.is("lines", x.bench(), 4);
         e.is("the tape", x.count(8), 0);
         e.is("a move", x.move(0, 0, 1), 1);
+        e.is("and one that is thought of", x.moved(0, 2), 3);
         Tell.tape(x, FIRST + Tell.seats(3) + Tell.caller(6, 0, 0, 0, 99));
         e.is("in place of it", x.bench(), 3);
         e.is("nothing done", x.count(6), 0);
@@ -125,7 +139,22 @@ public final class EdgesOfTapeTest {
         Tell.tape(x, " \n ");
         e.is("blanks alone", x.bench(), 0);
         e.is("there is none by them", x.free(0), -2);
+        fullBench(x);
         faultyBench();
+    }
+
+    /** Tokens that end with a full tape. */
+    private void fullBench(WearingBench x) {
+        String[] ends = {"seat", " law", "   7", "7777"};
+        int[] places = {800, 797, 799, 796};
+        for (int i = 0; i < ends.length; i++) {
+            Tell.tape(x, FIRST + " ".repeat(800 - 35 - 4) + ends[i]);
+            e.is("800 bytes", x.count(8), 800);
+            e.is("a fault", x.bench(), -4);
+            e.list("a full tape, at its end " + ends[i], x::fault, 1, places[i]);
+        }
+        Tell.tape(x, FIRST + " ".repeat(800 - 35 - 13) + "seat gives 1;");
+        e.is("a full tape", x.bench(), 2);
     }
 
     private void faultyBench() {

@@ -229,6 +229,9 @@ public final class EdgesOfWouldBeTest {
         e.is("five", many(6, 50).best(), 5);
         e.is("five on one seat", many(1, 50).best(), 5);
         e.is("none of five", many(6, 51).best(), 0);
+        // of two who come at once the second goes in at 60
+        e.is("told off at 60", Tell.of(Tell.first(0, 0, 30, 0) + Tell.seats(0, 1) + Tell.caller(0, 0, 1, 9, 9)
+                + Tell.caller(0, 0, 0, 60, 60)).best(), 1);
         e.is("nobody", bare.best(), 0);
         e.list("as told", c -> y.caller(c, 2), 0, 0);
         e.says("-2: there is no BENCH.");
