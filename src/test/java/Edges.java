@@ -3,6 +3,8 @@ import java.nio.file.Files;
 import java.nio.file.Path;
 import java.util.LinkedHashMap;
 import java.util.Map;
+import java.util.Set;
+import java.util.TreeSet;
 import java.util.function.IntToLongFunction;
 
 /**
@@ -14,6 +16,7 @@ final class Edges {
 
     private final Due due;
     private final String all;
+    private final Set<Integer> opened = new TreeSet<>();
     private final Map<String, Boolean> tried = new LinkedHashMap<>();
     private String heading = "";
     private String text = "";
@@ -28,6 +31,7 @@ final class Edges {
     /** Opens a promise by its number. */
     void promise(int number) {
         open("## Promise " + number + ": ");
+        opened.add(number);
         text = text.substring(text.indexOf("`: ") + 3);
         quoted = new boolean[text.length()];
     }
@@ -84,6 +88,13 @@ final class Edges {
     void list(String call, IntToLongFunction ask, long... wants) {
         for (int i = 0; i < wants.length; i++) {
             is(call + " of " + i, ask.applyAsLong(i), wants[i]);
+        }
+    }
+
+    /** None of the promises from one to another may have been left out. */
+    void hasOpened(int first, int last) {
+        for (int number = first; number <= last; number++) {
+            due.holds("promise " + number + " is tried", opened.contains(number));
         }
     }
 

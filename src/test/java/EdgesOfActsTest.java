@@ -39,6 +39,7 @@ public final class EdgesOfActsTest {
         t.write();
         t.paste();
         t.pastesRefused();
+        edges.hasOpened(62, 76);
         edges.end();
     }
 

@@ -63,6 +63,7 @@ public final class EdgesOfDayTest {
         t.last();
         t.twins();
         t.opens();
+        edges.hasOpened(8, 35);
         edges.end();
     }
 

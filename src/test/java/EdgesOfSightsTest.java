@@ -29,6 +29,7 @@ public final class EdgesOfSightsTest {
         t.marks();
         t.mark();
         t.under();
+        edges.hasOpened(52, 57);
         edges.end();
     }
 

@@ -22,6 +22,7 @@ public final class EdgesOfTapeTest {
         t.fault();
         t.seat();
         t.caller();
+        edges.hasOpened(1, 7);
         edges.end();
     }
 

@@ -39,6 +39,8 @@ public final class EdgesOfWouldBeTest {
         t.rests();
         t.rest();
         t.swapsAndSwap();
+        edges.hasOpened(36, 51);
+        edges.hasOpened(58, 61);
         edges.end();
     }
 
